@@ -417,7 +417,7 @@ public final class StrikeWheels {
 
     public int gives(int striker) throws NoSuchElementException {
         needStriker(striker);
-        return countGiven(striker);
+        return countGiven(current(), striker);
     }
 
     public int best() {
@@ -659,8 +659,7 @@ public final class StrikeWheels {
         return NONE;
     }
 
-    private int countGiven(int striker) {
-        Sieve now = current();
+    private int countGiven(Sieve now, int striker) {
         int d = plan.dOf(striker);
         int many = 0;
         for (int number = d * d; d > 0 && number <= now.lastNumber(); number += d) {
@@ -795,7 +794,7 @@ public final class StrikeWheels {
         if (place == NONE) {
             return -2;
         }
-        int back = countGiven(place);
+        int back = countGiven(current(), place);
         plan.removeStriker(place);
         return back;
     }
@@ -927,6 +926,7 @@ public final class StrikeWheels {
         private int wheel = 0;
         private int stretches = 0;
         private final int[] rooms = new int[MOST_STRETCHES];
+        private int last = 1;
         private int strikers = 0;
         private final int[] ds = new int[MOST_STRIKERS];
         private int version = 0;
@@ -937,6 +937,7 @@ public final class StrikeWheels {
         void beginWith(int newWheel) {
             wheel = newWheel;
             stretches = 0;
+            last = 1;
             strikers = 0;
             version++;
         }
@@ -944,6 +945,7 @@ public final class StrikeWheels {
         void takeOver(Plan other) {
             wheel = other.wheel;
             stretches = other.stretches;
+            last = other.last;
             strikers = other.strikers;
             System.arraycopy(other.rooms, 0, rooms, 0, MOST_STRETCHES);
             System.arraycopy(other.ds, 0, ds, 0, MOST_STRIKERS);
@@ -977,7 +979,7 @@ public final class StrikeWheels {
         }
 
         int lastNumber() {
-            return 1 + roomAhead(stretches);
+            return last;
         }
 
         private int roomAhead(int stretch) {
@@ -996,13 +998,16 @@ public final class StrikeWheels {
             if (stretches >= 0 && stretches < rooms.length) {
                 rooms[stretches] = room;
                 stretches++;
+                last += room;
                 version++;
             }
         }
 
         void removeStretch() {
-            if (stretches > 0) {
+            int room = lastRoom();
+            if (room > 0) {
                 stretches--;
+                last -= room;
                 version++;
             }
         }
@@ -1483,18 +1488,9 @@ public final class StrikeWheels {
         int readScript(int length, Script script) {
             begin(length);
             script.clear();
-            for (int many = 0; many <= MOST_ORDERS && !source.isEnd(); many++) {
-                Order order = orderHere();
-                if (order == null) {
-                    fail(NOT_ALLOWED);
-                } else if (many == MOST_ORDERS) {
-                    fail(TOO_MANY);
-                } else {
-                    readOrder(order, script);
-                }
-                if (error != 0) {
-                    break;
-                }
+            boolean isRight = true;
+            for (int many = 0; many <= MOST_ORDERS && isRight && !source.isEnd(); many++) {
+                isRight = readOrder(script);
             }
             return error;
         }
@@ -1552,7 +1548,14 @@ public final class StrikeWheels {
             return null;
         }
 
-        private boolean readOrder(Order order, Script script) {
+        private boolean readOrder(Script script) {
+            Order order = orderHere();
+            if (order == null) {
+                return fail(NOT_ALLOWED);
+            }
+            if (script.count() >= MOST_ORDERS) {
+                return fail(TOO_MANY);
+            }
             source.advance();
             number = 0;
             if (order.numbers > 0 && !takeNumber(order.least, order.most)) {

@@ -120,6 +120,7 @@ public final class PromiseTest {
         Check.same("all strikers stand", x.size(3), 30);
         loadErrors(x);
         loadKeepsOnError();
+        textEndsInAToken();
         StrikeWheels y = new StrikeWheels();
         Check.illegalArgument("load(-1)", () -> y.load(-1));
         Check.illegalArgument("load of more than there is", () -> y.load(1));
@@ -143,6 +144,7 @@ public final class PromiseTest {
         error(x, "sieve 1 ", 1, 8);
         error(x, "sievex 1;", 1, 0);
         error(x, "siev 1;", 1, 0);
+        error(x, "sievez 1;", 1, 0);
         error(x, "Sieve 1;", 1, 0);
         error(x, "sieve 5;", 2, 6);
         error(x, "sieve ;", 1, 6);
@@ -166,6 +168,16 @@ public final class PromiseTest {
         error(x, "sieve 1;stretch 4;striker 5,", 1, 27);
         error(x, "sieve 0;" + stretches(12, 1) + "lay", 1, 128);
         error(x, "sieve 0;" + strikers(10, 30) + "stretch 1;", 1, 338);
+    }
+
+    private static void textEndsInAToken() {
+        StrikeWheels x = new StrikeWheels();
+        Check.feed(x, "sievex");
+        Check.same("a word goes on behind the text", x.load(5), -11);
+        Check.same("the word is right, the end is not", x.errorPosition(), 5);
+        Check.feed(x, "sieve 45");
+        Check.same("a number goes on behind the text", x.load(7), -11);
+        Check.same("the number is right, the end is not", x.errorPosition(), 7);
     }
 
     private static void loadKeepsOnError() {
@@ -917,7 +929,7 @@ public final class PromiseTest {
         formats("sieve 1;stretch 7;stretch 5;stretch 3;striker 3;", 2, "");
         formats("sieve 1;stretch 2;stretch 1;", 1, "");
         formats("sieve 0;stretch 14;striker 4;striker 3;striker 2;", 0, "2.3 5 7 11 13");
-        formats("sieve 0;" + stretches(3, 333) + "stretch 3;", 3, "1001.1002.1003");
+        formats("sieve 0;" + stretches(3, 332) + "stretch 4;", 3, "998.999.1000.1001");
         formats("sieve 0;stretch 97;stretch 3;", 1, "99.100.101");
         StrikeWheels x = Check.of("sieve 0;" + stretches(12, 400));
         Check.same("the longest text", x.format(11), 1999);
