@@ -8,15 +8,21 @@ final class Check {
 
     private static int wrong = 0;
     private static int checked = 0;
+    private static String about = "";
 
     private Check() {
+    }
+
+    /** What the checks that follow are about; it is told with each wrong one. */
+    static void about(String what) {
+        about = what + ": ";
     }
 
     static void same(String what, long got, long due) {
         checked++;
         if (got != due) {
             wrong++;
-            System.out.println(what + ": answered " + got + ", due is " + due);
+            System.out.println(about + what + ": answered " + got + ", due is " + due);
         }
     }
 
@@ -86,7 +92,7 @@ final class Check {
         checked++;
         if (!got.equals(due)) {
             wrong++;
-            System.out.println(what + ": answered \"" + got + "\", due is \"" + due + "\"");
+            System.out.println(about + what + ": answered \"" + got + "\", due is \"" + due + "\"");
         }
     }
 

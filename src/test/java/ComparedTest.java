@@ -3,7 +3,9 @@ import java.util.List;
 
 /** Walks of calls, each answer compared with the model's; the walks are the same at each run. */
 public final class ComparedTest {
-    private static final int CALLS = 500;
+    // An object is used for at most 512 calls; a step of a walk takes up to 40, asking all at its end as many.
+    private static final int CALLS = 512 - 40 - 40;
+    private static final int CALLS_ON_A_LARGE_ONE = 160;
     private static final int[] EDGES = {Integer.MIN_VALUE, Integer.MIN_VALUE + 1, -400, -2, -1, 0, 1, 2, 3, 4, 5,
         29, 30, 31, 119, 120, 121, 399, 400, 401, 4801, 4802, 5000, 5001, 14400, 44100, 9409,
         Integer.MAX_VALUE - 1, Integer.MAX_VALUE};
@@ -14,6 +16,7 @@ public final class ComparedTest {
     private StrikeWheels wheels = new StrikeWheels();
     private Model model = new Model();
     private String log = "";
+    private int calls = 0;
 
     private ComparedTest(long seed, boolean isLarge) {
         this.seed = seed;
@@ -22,10 +25,10 @@ public final class ComparedTest {
     }
 
     public static void main(String[] args) {
-        for (long seed = 1; seed <= 150; seed++) {
+        for (long seed = 1; seed <= 900; seed++) {
             new ComparedTest(seed, false).walk();
         }
-        for (long seed = 1001; seed <= 1012; seed++) {
+        for (long seed = 1001; seed <= 1030; seed++) {
             new ComparedTest(seed, true).walk();
         }
         Check.close("ComparedTest");
@@ -69,6 +72,7 @@ public final class ComparedTest {
 
     private void compare(String call, Check.Call got, Check.Call due) {
         log = call;
+        calls++;
         int thrown = Check.thrownBy(due);
         int caught = 0;
         long answer = 0;
@@ -96,8 +100,7 @@ public final class ComparedTest {
 
     private void walk() {
         begin();
-        int calls = 40;
-        while (calls < CALLS) {
+        while (calls < (isLarge ? CALLS_ON_A_LARGE_ONE : CALLS)) {
             if (isLarge && below(6) != 0 || below(3) == 0) {
                 change();
             } else if (below(2) == 0) {
@@ -105,12 +108,9 @@ public final class ComparedTest {
             } else {
                 askMarks();
             }
-            calls += 1;
-            if (isLarge) {
-                calls += 6;
-            }
         }
         askAll();
+        Check.isTrue("seed " + seed + ": no more than 512 calls", calls <= 512);
     }
 
     private void begin() {
@@ -144,7 +144,7 @@ public final class ComparedTest {
                     ask("undo()", () -> wheels.undo(), () -> model.undo());
                 }
                 break;
-            case 14: wheels.saveSnapshot(); model.saveSnapshot(); break;
+            case 14: wheels.saveSnapshot(); model.saveSnapshot(); calls++; break;
             default:
                 if (below(2) == 0) {
                     ask("restoreSnapshot()", () -> wheels.restoreSnapshot() ? 1 : 0, () -> model.restoreSnapshot() ? 1 : 0);
@@ -308,15 +308,25 @@ public final class ComparedTest {
         }
     }
 
+    private void feed(String text) {
+        Check.feed(wheels, text);
+        calls += (text.length() + 19) / 20;
+    }
+
+    private int errorPosition() {
+        calls++;
+        return wheels.errorPosition();
+    }
+
     private void loadText(String text) {
         if (text.length() > 600) {
             return;
         }
         ModelReader read = ModelReader.ofText(text);
-        Check.feed(wheels, text);
+        feed(text);
         ask("load of " + text, () -> wheels.load(text.length()),
                 () -> read.code != 0 ? -10 - read.code : model.load(read.wheel, read.rooms, read.row));
-        Check.same("seed " + seed + ": errorPosition() behind load of " + text, wheels.errorPosition(), read.position);
+        Check.same("seed " + seed + ": errorPosition() behind load of " + text, errorPosition(), read.position);
     }
 
     private void playText(String text) {
@@ -324,9 +334,9 @@ public final class ComparedTest {
             return;
         }
         ModelReader read = ModelReader.ofScript(text);
-        Check.feed(wheels, text);
+        feed(text);
         ask("play of " + text, () -> wheels.play(text.length()),
                 () -> read.code != 0 ? -10 - read.code : model.play(read.orders));
-        Check.same("seed " + seed + ": errorPosition() behind play of " + text, wheels.errorPosition(), read.position);
+        Check.same("seed " + seed + ": errorPosition() behind play of " + text, errorPosition(), read.position);
     }
 }
