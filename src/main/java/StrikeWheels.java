@@ -284,7 +284,7 @@ public final class StrikeWheels {
     public int chain(int number) {
         Sieve now = current();
         int many = 0;
-        for (int link = number; link <= now.lastNumber() && now.isMark(link); link = 2 * link + 1) {
+        for (int link = number; many < MOST_LAST && now.isMark(link); link = 2 * link + 1) {
             many++;
         }
         return many;

@@ -10,7 +10,26 @@ final class Check {
     private static int checked = 0;
     private static String about = "";
 
+    static {
+        stopWhenLate();
+    }
+
     private Check() {
+    }
+
+    /** A call that never returns must fail the test, not hold it up. */
+    private static void stopWhenLate() {
+        Thread watch = new Thread(() -> {
+            try {
+                Thread.sleep(120000);
+            } catch (InterruptedException stopped) {
+                return;
+            }
+            System.out.println(about + "not ended after two minutes");
+            Runtime.getRuntime().halt(1);
+        });
+        watch.setDaemon(true);
+        watch.start();
     }
 
     /** What the checks that follow are about; it is told with each wrong one. */

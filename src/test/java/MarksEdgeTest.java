@@ -267,6 +267,9 @@ public final class MarksEdgeTest {
         Edges.answers("all: thickest", all4800(), StrikeWheels::thickest, 1, 1, 399, 399, 400, 400);
         StrikeWheels x = Check.of("sieve 0;stretch 8;striker 2;striker 4;");
         Check.same("at the front", x.thickest(2), 2);
+        Edges.answers("LAST 2: thickest", Check.of("sieve 0;stretch 1;"), StrikeWheels::thickest, 1, 1);
+        Edges.answers("LAST 3: thickest", Check.of("sieve 0;stretch 2;"), StrikeWheels::thickest, 1, 1, 2, 2);
+        Edges.answers("up to LAST: thickest", Check.of("sieve 0;stretch 5;"), StrikeWheels::thickest, 4, 4, 5, 5);
         StrikeWheels y = Check.of("sieve 0;stretch 400;stretch 400;striker 2;striker 3;");
         Check.same("the last 400 have fewer", y.thickest(400), 135);
     }

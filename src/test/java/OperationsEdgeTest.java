@@ -7,9 +7,14 @@ public final class OperationsEdgeTest {
 
     public static void main(String[] args) {
         theOperations();
+        oneBehindTheOther();
         recordedWithoutChange();
         refusedChangesNothing();
-        throwingChangesNothing();
+        rangesOfStretches();
+        rangesOfSwap();
+        rangesOfStrikers();
+        rangesOfWheelAndFill();
+        rangesOfLength();
         exceptionsFirst();
         codesInTheirOrder();
         eightMostRecent();
@@ -95,6 +100,36 @@ public final class OperationsEdgeTest {
         accounts("restoreSnapshot", saved, 3, 1, 1, 1, 1);
     }
 
+    /** Each operation behind each other one, nothing asked between, makes what a text with the same makes. */
+    private static void oneBehindTheOther() {
+        Edges.sentence("does its orders, one after the other");
+        Edges.Use[] calls = {x -> x.lay(4), StrikeWheels::drop, x -> x.trim(7), x -> x.add(2), x -> x.lift(3), x -> x.first(5),
+            x -> x.swap(3, 5), x -> x.wheel(0), x -> x.fill(30), StrikeWheels::undo, x -> x.restoreSnapshot() ? 1 : 0,
+            x -> Check.play(x, "wheel 0;drop;lift 5;")};
+        for (Edges.Use ahead : calls) {
+            for (Edges.Use behind : calls) {
+                StrikeWheels x = Check.of("sieve 1;stretch 40;stretch 9;striker 3;striker 9;striker 5;");
+                x.saveSnapshot();
+                x.wheel(2);
+                x.size(4);
+                ahead.of(x);
+                behind.of(x);
+                StringBuilder text = new StringBuilder("sieve ").append(x.size(0)).append(';');
+                for (int stretch = 0; stretch < x.size(1); stretch++) {
+                    text.append("stretch ").append(x.stretch(stretch, 1) - x.stretch(stretch, 0) + 1).append(';');
+                }
+                for (int striker = 0; striker < x.size(3); striker++) {
+                    text.append("striker ").append(x.striker(striker, 0)).append(';');
+                }
+                StrikeWheels y = Check.of(text.toString());
+                Check.sameText("sizes", sizes(x), sizes(y));
+                for (int number = 1; number < 60; number++) {
+                    Check.same("cause(" + number + ")", x.cause(number), y.cause(number));
+                }
+            }
+        }
+    }
+
     private static void recordedWithoutChange() {
         Edges.sentence("Every successful call is recorded, even if it changes nothing.");
         Edges.Use[] calls = {x -> x.first(3), x -> x.swap(9, 9), x -> x.wheel(1), x -> x.fill(1), StrikeWheels::tidy,
@@ -146,20 +181,44 @@ public final class OperationsEdgeTest {
         Edges.errorAndKeeps("lay 9;add 20;wheel 4;lift 3;drop;swap 3 5", true, 1, 41);
     }
 
-    private static void throwingChangesNothing() {
-        Edges.sentence("or throws an exception changes nothing");
+    private static void rangesOfStretches() {
+        Edges.sentence("Operation: a stretch is laid. - `room`: 1 to 400");
         Edges.range("lay", 1, 400, Edges::busyAndFed, StrikeWheels::lay);
+        Edges.sentence("Operation: the last stretch gets a smaller ROOM. - `room`: 1 to 399");
         Edges.range("trim", 1, 399, Edges::busyAndFed, StrikeWheels::trim);
+        Edges.range("trim of the greatest", 1, 399, Edges::withAllStretches, StrikeWheels::trim);
+    }
+
+    private static void rangesOfSwap() {
+        Edges.sentence("Operation: two strikers change their places in the row. - `d`: 2 to 120 - `e`: 2 to 120");
         Edges.range("swap(.., 3)", 2, 120, Edges::busyAndFed, (x, d) -> x.swap(d, 3));
         Edges.range("swap(3, ..)", 2, 120, Edges::busyAndFed, (x, d) -> x.swap(3, d));
         Edges.range("swap(.., ..)", 2, 120, Edges::busyAndFed, (x, d) -> x.swap(d, d));
+    }
+
+    private static void rangesOfStrikers() {
+        Edges.sentence("Operation: a striker is added behind all others. - `d`: 2 to 120");
         Edges.range("add", 2, 120, Edges::busyAndFed, StrikeWheels::add);
+        Edges.sentence("Operation: a striker is taken away. - `d`: 2 to 120");
         Edges.range("lift", 2, 120, Edges::busyAndFed, StrikeWheels::lift);
+        Edges.sentence("Operation: a striker becomes the first one of the row. - `d`: 2 to 120");
         Edges.range("first", 2, 120, Edges::busyAndFed, StrikeWheels::first);
+    }
+
+    private static void rangesOfWheelAndFill() {
+        Edges.sentence("Operation: sets WHEEL. - `wheel`: 0 to 4");
         Edges.range("wheel", 0, 4, Edges::busyAndFed, StrikeWheels::wheel);
+        Edges.sentence("- `many`: 1 to 30");
         Edges.range("fill", 1, 30, Edges::busyAndFed, StrikeWheels::fill);
+        Edges.range("fill of all there are", 1, 30, Edges::withAllStrikers, StrikeWheels::fill);
+    }
+
+    private static void rangesOfLength() {
+        Edges.sentence("if length is negative or greater than the number of bytes in the buffer (nothing changes)");
         Edges.range("load", 0, 20, Edges::busyAndFed, StrikeWheels::load);
+        Edges.range("load from an empty buffer", 0, 0, Edges::busy, StrikeWheels::load);
         Edges.range("play", 0, 20, Edges::busyAndFed, StrikeWheels::play);
+        Edges.range("play from an empty buffer", 0, 0, Edges::busy, StrikeWheels::play);
     }
 
     private static void exceptionsFirst() {
@@ -480,6 +539,10 @@ public final class OperationsEdgeTest {
         Check.same("none is left", x.size(1), 0);
         Check.same("LAST", x.size(2), 1);
         Check.same("recorded", x.undoCount(), 2);
+        StrikeWheels y = Check.of("sieve 1;stretch 9;stretch 9;");
+        Check.same("marks ahead of it", y.size(4), 10);
+        y.drop();
+        Check.same("marks behind it", y.size(4), 5);
     }
 
     private static void trimNone() {

@@ -105,6 +105,11 @@ public final class TermsEdgeTest {
         Edges.answers("behind a trim: at", x, StrikeWheels::at, 5, 0, 6, 3);
         x.lay(2);
         Edges.answers("behind a lay: at", x, StrikeWheels::at, 7, 0, 8, 3);
+        x.drop();
+        Edges.answers("behind a drop: at", x, StrikeWheels::at, 5, 0, 6, 3);
+        Check.same("behind a drop: marks", x.size(4), 4);
+        x.undo();
+        Edges.answers("behind an undo: at", x, StrikeWheels::at, 7, 0, 8, 3);
         StrikeWheels none = Check.of("sieve 0;");
         Edges.answers("without stretches: at", none, StrikeWheels::at, 1, 3, 2, 3);
         StrikeWheels full = Check.of("sieve 0;" + Edges.stretches(12, 400));

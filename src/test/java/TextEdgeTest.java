@@ -12,6 +12,7 @@ public final class TextEdgeTest {
 
     public static void main(String[] args) {
         words();
+        keywords();
         numbers();
         semicolons();
         blanks();
@@ -97,6 +98,32 @@ public final class TextEdgeTest {
         for (char letter = 'a'; letter <= 'z'; letter++) {
             textError("sieve" + letter + "1;", NOT_ALLOWED, 0);
             scriptError("drop" + letter + ";", NOT_ALLOWED, 0);
+        }
+    }
+
+    /** Of each keyword each letter counts. */
+    private static void keywords() {
+        Edges.sentence("(quoted = literal");
+        everyLetter("", "sieve", " 1;", false);
+        everyLetter("sieve 1;", "stretch", " 3;", false);
+        everyLetter("sieve 1;", "striker", " 3;", false);
+        for (String order : new String[] {"lay", "add", "lift", "first", "swap 5", "wheel", "fill"}) {
+            String word = order.split(" ")[0];
+            everyLetter("", word, order.substring(word.length()) + " 3;", true);
+            everyLetter("drop;", word, order.substring(word.length()) + " 3;", true);
+        }
+        everyLetter("", "drop", ";", true);
+    }
+
+    private static void everyLetter(String ahead, String word, String behind, boolean isScript) {
+        for (int index = 0; index < word.length(); index++) {
+            for (char letter : new char[] {'a', 'q', 'z'}) {
+                char[] letters = word.toCharArray();
+                letters[index] = letter == letters[index] ? 'b' : letter;
+                Edges.errorAndKeeps(ahead + new String(letters) + behind, isScript, NOT_ALLOWED, ahead.length());
+            }
+            Edges.errorAndKeeps(ahead + word.substring(0, index) + word.substring(index + 1) + behind, isScript, NOT_ALLOWED,
+                    ahead.length());
         }
     }
 
@@ -308,6 +335,15 @@ public final class TextEdgeTest {
         textError("sieve 1;oh;striker 1;", NOT_ALLOWED, 8);
         textError("sieve 1;striker 3;striker 3 A", TWICE, 26);
         textError("sieve 1;" + Edges.stretches(12, 1) + "striker 1;stretch 1;", OUT_OF_RANGE, 136);
+        textError("1;stretch 0;", NOT_ALLOWED, 0);
+        textError("sieve 1 stretch 0;", NOT_ALLOWED, 8);
+        textError("sieve 1;stretch 3 stretch 0;", NOT_ALLOWED, 18);
+        textError("sieve 1;stretch 3 striker 1;", NOT_ALLOWED, 18);
+        textError("sieve 1;striker 3 striker 3;", NOT_ALLOWED, 18);
+        textError("sieve;stretch 0;", NOT_ALLOWED, 5);
+        scriptError("drop drop;lay 0;", NOT_ALLOWED, 5);
+        scriptError("lay 3 lay 0;", NOT_ALLOWED, 6);
+        scriptError("lay;lay 0;", NOT_ALLOWED, 3);
         scriptError("lay 0;wheel 9;", OUT_OF_RANGE, 4);
         scriptError("lay 1;oh;wheel 9;", NOT_ALLOWED, 6);
         scriptError("swap 1 1;", OUT_OF_RANGE, 5);

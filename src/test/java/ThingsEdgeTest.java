@@ -175,6 +175,9 @@ public final class ThingsEdgeTest {
         StrikeWheels y = Check.of("sieve 0;stretch 1;stretch 2;stretch 1;striker 2;striker 5;");
         Check.same("3, 4: the last one", y.stretch(1, 5), 3);
         Check.same("5: the first one", y.stretch(2, 4), 5);
+        StrikeWheels all = Check.of("sieve 0;stretch 3;stretch 3;stretch 3;");
+        Check.same("the number ahead has a mark, too: the first one", all.stretch(1, 4), 5);
+        Check.same("the number behind has a mark, too: the last one", all.stretch(1, 5), 7);
     }
 
     // ---- striker, find
