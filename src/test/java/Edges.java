@@ -1,7 +1,3 @@
-import java.io.IOException;
-import java.nio.file.Files;
-import java.nio.file.Path;
-
 /** What the tests of boundary cases have in common: sentences of the document, and what a refused call leaves. */
 final class Edges {
     static final int LEAST = Integer.MIN_VALUE;
@@ -21,25 +17,21 @@ final class Edges {
         long of(StrikeWheels x, int number);
     }
 
-    private static String document = "";
-
     private Edges() {
     }
 
-    /** Begins the test of a sentence of the document, or of a part of one, which must stand there word by word. */
+    /** Begins the test of a sentence of the document, or of a part of one, which must stand there word by word, and once. */
     static void sentence(String words) {
-        if (document.isEmpty()) {
-            document = readDocument();
-        }
         Check.about("\"" + words + "\"");
-        Check.isTrue("stands in the document", document.contains(words.replaceAll("\\s+", " ")));
+        Check.same("times that it stands in the document", Document.times(words, Document.whole()), 1);
     }
 
-    private static String readDocument() {
-        try {
-            return Files.readString(Path.of("../shared/DOC.md")).replaceAll("\\s+", " ");
-        } catch (IOException failure) {
-            return "unreadable";
+    /** Begins the test of sentences, or of parts of them, that must stand in a promise word by word, each of them once. */
+    static void promise(int number, String... sentences) {
+        String promise = Document.promise(number);
+        Check.about("promise " + number + ", \"" + String.join(" .. ", sentences) + "\"");
+        for (String words : sentences) {
+            Check.same("times that \"" + words + "\" stands there", Document.times(words, promise), 1);
         }
     }
 

@@ -9,10 +9,14 @@ import java.nio.file.Path;
 import java.util.Arrays;
 import java.util.Set;
 import java.util.TreeSet;
+import java.util.regex.Matcher;
 import java.util.regex.Pattern;
 
 /** The face stands as the document has it, and the source keeps to what LANGUAGE.md lets a test see. */
 public final class FaceTest {
+    /** A sentence of the document that tells the calls of a part of the interface. */
+    static final String PART = "Ahead of the calls ([^.]*) the interface says: (---- [^.]*)\\.";
+
     private static final Path DOCUMENT = Path.of("../shared/DOC.md");
     private static final Path SOURCE = Path.of("src/main/java/StrikeWheels.java");
 
@@ -25,8 +29,12 @@ public final class FaceTest {
     }
 
     public static void main(String[] args) throws IOException {
+        String source = Files.readString(SOURCE, StandardCharsets.ISO_8859_1);
         sameFace(Files.readString(DOCUMENT));
-        sourceKeepsToTheRules(Files.readString(SOURCE, StandardCharsets.ISO_8859_1));
+        samePromises(Files.readString(DOCUMENT));
+        sameParts(source);
+        sourceKeepsToTheRules(source);
+        methodsAreShort(source);
         namesAreApart();
         Check.close("FaceTest");
     }
@@ -62,6 +70,42 @@ public final class FaceTest {
         Check.isTrue("public final", Modifier.toString(StrikeWheels.class.getModifiers()).equals("public final"));
     }
 
+    /** The promises tell the members of the face, one by one in its order. */
+    private static void samePromises(String document) {
+        int from = document.indexOf("public final class StrikeWheels {");
+        String face = document.substring(from, document.indexOf("```", from));
+        int promise = 0;
+        for (String line : face.split("\n")) {
+            String text = line.trim();
+            if (text.startsWith("public ") && text.contains("(")) {
+                promise++;
+                String member = "`" + text.substring("public ".length(), text.length() - 1) + "`:";
+                Check.isTrue("promise " + promise + " is about " + member, Document.promise(promise).contains(" " + member));
+            }
+        }
+        Check.same("promises", promise, 61);
+    }
+
+    /** Ahead of some calls the source has a comment, too, and behind it these calls alone. */
+    private static void sameParts(String source) {
+        Matcher part = Pattern.compile(PART).matcher(Document.whole());
+        int parts = 0;
+        while (part.find()) {
+            parts++;
+            String head = "\n    // " + part.group(2) + "\n";
+            Check.same("times that the source has " + part.group(2), source.split(Pattern.quote(head), -1).length - 1, 1);
+            int from = source.indexOf(head) + head.length();
+            int to = source.indexOf("\n    // ----", from);
+            Matcher method = Pattern.compile("\n    public [a-z]+ (\\w+)\\(").matcher(source.substring(from - 1, to));
+            StringBuilder calls = new StringBuilder();
+            while (method.find()) {
+                calls.append(calls.length() > 0 ? ", `" : "`").append(method.group(1)).append('`');
+            }
+            Check.sameText("the calls behind " + part.group(2), calls.toString(), part.group(1));
+        }
+        Check.same("parts of the interface", parts, 7);
+    }
+
     /** A line of the document's face without the names of its parameters. */
     private static String shortened(String line) {
         String text = line.replace(";", "");
@@ -88,6 +132,25 @@ public final class FaceTest {
         int imports = source.split("\nimport |^import ", -1).length - 1;
         Check.same("imports", imports, 1);
         Check.isTrue("the import", source.startsWith("import java.util.NoSuchElementException;"));
+    }
+
+    /** Rule 11: some sixty lines a method, seven parameters, some twelve classes. */
+    private static void methodsAreShort(String source) {
+        Matcher method = Pattern.compile("\n( {4}| {8})\\w[^\n=;]*\\([^\n;]*\\{\n(.*?\n)\\1\\}\n", Pattern.DOTALL).matcher(source);
+        int methods = 0;
+        for (int at = 0; method.find(at); at = method.end() - 1) {
+            methods++;
+            int lines = method.group(2).split("\n").length;
+            Check.isTrue(lines + " lines of " + method.group().trim().split("\n")[0], lines <= 60);
+        }
+        Check.isTrue("methods were found", methods > 150);
+        Class<?>[] inside = StrikeWheels.class.getDeclaredClasses();
+        Check.isTrue("some twelve classes at most", inside.length < 12);
+        for (Class<?> type : inside) {
+            for (Method declared : type.getDeclaredMethods()) {
+                Check.isTrue("parameters of " + declared, declared.getParameterCount() <= 7);
+            }
+        }
     }
 
     /** Rule 1: no private method bears the name of a public one; the classes inside keep to it as well. */

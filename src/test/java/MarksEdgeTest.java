@@ -131,7 +131,8 @@ public final class MarksEdgeTest {
     }
 
     private static void chainOfMarks() {
-        Edges.sentence("each next one being twice the one ahead and 1 more; 0 if the number is no mark");
+        Edges.sentence("Returns how many marks there are in a row that begins with a number, each next one being twice the one ahead"
+                + " and 1 more; 0 if the number is no mark.");
         StrikeWheels x = Check.of("sieve 1;stretch 45;striker 3;striker 5;");
         Edges.answers("LAST 46: chain", x, StrikeWheels::chain, 2, 4, 5, 3, 11, 2, 23, 1, 3, 2, 7, 1, 4, 0, 9, 0, 15, 0, 1, 0, 0, 0,
                 -1, 0, -2, 0, 46, 0, 47, 0, LEAST, 0, LEAST + 1, 0, MOST, 0, MOST - 1, 0, 1073741823, 0);
@@ -142,7 +143,7 @@ public final class MarksEdgeTest {
     }
 
     private static void turnOutOfRange() {
-        Edges.sentence("`turn`: 0 to 5000");
+        Edges.promise(24, "`turn`: 0 to 5000", "Throws `IllegalArgumentException` if turn is out of range");
         Edges.range("turn", 0, 5000, Edges::busyAndFed, StrikeWheels::turn);
         StrikeWheels x = Check.of("sieve 4;stretch 9;");
         Check.same("far behind LAST", x.turn(5000), 0);
@@ -178,7 +179,7 @@ public final class MarksEdgeTest {
     // ---- gaps, twins
 
     private static void gapsOutOfRange() {
-        Edges.sentence("`int gaps(int gap) throws IllegalArgumentException`");
+        Edges.promise(26, "`gap`: 1 to 400", "Throws `IllegalArgumentException` if gap is out of range");
         Edges.range("gaps", 1, 400, Edges::busyAndFed, StrikeWheels::gaps);
     }
 
@@ -196,7 +197,7 @@ public final class MarksEdgeTest {
     }
 
     private static void widestOfFew() {
-        Edges.sentence("0 with fewer than two marks");
+        Edges.sentence("Returns the greatest difference of two marks without a mark between them; 0 with fewer than two marks.");
         Check.same("none", nothingLaid().widest(), 0);
         Check.same("one", Check.of("sieve 0;stretch 1;").widest(), 0);
         Check.same("two", Check.of("sieve 0;stretch 2;").widest(), 1);
@@ -221,7 +222,7 @@ public final class MarksEdgeTest {
     }
 
     private static void twinsOutOfRange() {
-        Edges.sentence("`int twins(int gap) throws IllegalArgumentException`");
+        Edges.promise(29, "`gap`: 1 to 400", "Throws `IllegalArgumentException` if gap is out of range");
         Edges.range("twins", 1, 400, Edges::busyAndFed, StrikeWheels::twins);
     }
 
@@ -238,7 +239,8 @@ public final class MarksEdgeTest {
     // ---- sums
 
     private static void sumsOfTwo() {
-        Edges.sentence("(the order does not matter; twice the same is allowed)");
+        Edges.sentence("Returns in how many ways a number is the sum of two marks (the order does not matter; twice the same is"
+                + " allowed).");
         Edges.answers("sums", eleven(), StrikeWheels::sums, 3, 0, 4, 1, 5, 1, 6, 1, 8, 1, 10, 2, 34, 3, 50, 1, 54, 1, 57, 0, 58, 1,
                 59, 0, 2, 0, 1, 0, 0, 0, -1, 0, -4, 0, LEAST, 0, LEAST + 1, 0, MOST, 0, MOST - 1, 0);
         Edges.answers("nothing laid: sums", nothingLaid(), StrikeWheels::sums, 4, 0, 2, 0, LEAST, 0, MOST, 0);
@@ -256,7 +258,7 @@ public final class MarksEdgeTest {
     // ---- thickest
 
     private static void thickestOutOfRange() {
-        Edges.sentence("`int thickest(int many) throws IllegalArgumentException`");
+        Edges.promise(32, "`many`: 1 to 400", "Throws `IllegalArgumentException` if many is out of range");
         Edges.range("thickest", 1, 400, Edges::busyAndFed, StrikeWheels::thickest);
     }
 
@@ -303,7 +305,8 @@ public final class MarksEdgeTest {
     }
 
     private static void gapIsZero() {
-        Edges.sentence("marks that are no primes if no striker is missing, together (always 0)");
+        Edges.sentence("Returns primes that are laid and have no mark, and marks that are no primes if no striker is missing,"
+                + " together (always 0).");
         Check.same("new", eleven().gap(), 0);
         Check.same("none laid", nothingLaid().gap(), 0);
         Check.same("all", all4800().gap(), 0);
@@ -343,7 +346,7 @@ public final class MarksEdgeTest {
     // ---- what would be
 
     private static void takesOutOfRange() {
-        Edges.sentence("`int takes(int d) throws IllegalArgumentException`");
+        Edges.promise(37, "`d`: 2 to 120", "Throws `IllegalArgumentException` if d is out of range");
         Edges.range("takes", 2, 120, Edges::busyAndFed, StrikeWheels::takes);
     }
 
@@ -360,7 +363,7 @@ public final class MarksEdgeTest {
     }
 
     private static void givesNoSuch() {
-        Edges.sentence("`int gives(int striker) throws NoSuchElementException`");
+        Edges.promise(38, "Throws `NoSuchElementException` if there is no such striker");
         Edges.numbered("gives", 4, Edges::busyAndFed, StrikeWheels::gives);
         Edges.numbered("none: gives", 0, Edges::withoutAny, StrikeWheels::gives);
         Edges.numbered("30: gives", 30, Edges::withAllStrikers, StrikeWheels::gives);
@@ -413,12 +416,12 @@ public final class MarksEdgeTest {
     }
 
     private static void marksNextOutOfRange() {
-        Edges.sentence("`int marksNext(int room) throws IllegalArgumentException`");
+        Edges.promise(40, "`room`: 1 to 400", "Throws `IllegalArgumentException` if room is out of range");
         Edges.range("marksNext", 1, 400, Edges::busyAndFed, StrikeWheels::marksNext);
     }
 
     private static void marksNextWithoutRoom() {
-        Edges.sentence("(whether there could be one more or not)");
+        Edges.sentence("Returns marks of the next stretch if it was laid now with a ROOM (whether there could be one more or not).");
         StrikeWheels full = all4800();
         Edges.answers("12 stretches: marksNext", full, StrikeWheels::marksNext, 1, 1, 400, 400);
         full.wheel(1);
@@ -452,7 +455,7 @@ public final class MarksEdgeTest {
     }
 
     private static void nothingChanges() {
-        Edges.sentence("---- what would be; nothing changes");
+        Edges.sentence("says: ---- what would be; nothing changes.");
         Edges.tellsAndKeeps("takes", Edges::busyAndFed, x -> x.takes(11));
         Edges.tellsAndKeeps("gives", Edges::busyAndFed, x -> x.gives(0));
         Edges.tellsAndKeeps("best", Edges::busyAndFed, StrikeWheels::best);
@@ -475,7 +478,8 @@ public final class MarksEdgeTest {
     }
 
     private static void shareWithoutNumbers() {
-        Edges.sentence("told as the bits of that float; those of 0.0f without laid numbers");
+        Edges.sentence("Returns marks divided by laid numbers, as floats (both converted, then divided), told as the bits of that"
+                + " float; those of 0.0f without laid numbers.");
         Check.same("nothing laid", nothingLaid().shareBits(), 0);
         share(Check.of("sieve 1;stretch 1;"), 1, 1);
         Check.same("all of them", all4800().shareBits(), 0x3f800000);
@@ -495,7 +499,8 @@ public final class MarksEdgeTest {
     }
 
     private static void usefulWithoutStrikes() {
-        Edges.sentence("as doubles (both converted, then divided); 1 without strikes");
+        Edges.sentence("Returns laid numbers that strikers own divided by all strikes (for each striker the laid numbers that it"
+                + " strikes), as doubles (both converted, then divided); 1 without strikes.");
         useful("nothing laid", nothingLaid(), 1.0);
         useful("no strikers", Check.of("sieve 0;stretch 30;"), 1.0);
         useful("9 is above LAST", Check.of("sieve 0;stretch 7;striker 3;"), 1.0);

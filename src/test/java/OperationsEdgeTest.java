@@ -182,41 +182,42 @@ public final class OperationsEdgeTest {
     }
 
     private static void rangesOfStretches() {
-        Edges.sentence("Operation: a stretch is laid. - `room`: 1 to 400");
+        Edges.promise(45, "`room`: 1 to 400", "Throws `IllegalArgumentException` if room is out of range");
         Edges.range("lay", 1, 400, Edges::busyAndFed, StrikeWheels::lay);
-        Edges.sentence("Operation: the last stretch gets a smaller ROOM. - `room`: 1 to 399");
+        Edges.promise(47, "`room`: 1 to 399", "Throws `IllegalArgumentException` if room is out of range");
         Edges.range("trim", 1, 399, Edges::busyAndFed, StrikeWheels::trim);
         Edges.range("trim of the greatest", 1, 399, Edges::withAllStretches, StrikeWheels::trim);
     }
 
     private static void rangesOfSwap() {
-        Edges.sentence("Operation: two strikers change their places in the row. - `d`: 2 to 120 - `e`: 2 to 120");
+        Edges.promise(48, "`d`: 2 to 120", "`e`: 2 to 120", "Throws `IllegalArgumentException` if d or e is out of range");
         Edges.range("swap(.., 3)", 2, 120, Edges::busyAndFed, (x, d) -> x.swap(d, 3));
         Edges.range("swap(3, ..)", 2, 120, Edges::busyAndFed, (x, d) -> x.swap(3, d));
         Edges.range("swap(.., ..)", 2, 120, Edges::busyAndFed, (x, d) -> x.swap(d, d));
     }
 
     private static void rangesOfStrikers() {
-        Edges.sentence("Operation: a striker is added behind all others. - `d`: 2 to 120");
+        Edges.promise(49, "`d`: 2 to 120", "Throws `IllegalArgumentException` if d is out of range");
         Edges.range("add", 2, 120, Edges::busyAndFed, StrikeWheels::add);
-        Edges.sentence("Operation: a striker is taken away. - `d`: 2 to 120");
+        Edges.promise(50, "`d`: 2 to 120", "Throws `IllegalArgumentException` if d is out of range");
         Edges.range("lift", 2, 120, Edges::busyAndFed, StrikeWheels::lift);
-        Edges.sentence("Operation: a striker becomes the first one of the row. - `d`: 2 to 120");
+        Edges.promise(51, "`d`: 2 to 120", "Throws `IllegalArgumentException` if d is out of range");
         Edges.range("first", 2, 120, Edges::busyAndFed, StrikeWheels::first);
     }
 
     private static void rangesOfWheelAndFill() {
-        Edges.sentence("Operation: sets WHEEL. - `wheel`: 0 to 4");
+        Edges.promise(52, "`wheel`: 0 to 4", "Throws `IllegalArgumentException` if wheel is out of range");
         Edges.range("wheel", 0, 4, Edges::busyAndFed, StrikeWheels::wheel);
-        Edges.sentence("- `many`: 1 to 30");
+        Edges.promise(53, "`many`: 1 to 30", "Throws `IllegalArgumentException` if many is out of range");
         Edges.range("fill", 1, 30, Edges::busyAndFed, StrikeWheels::fill);
         Edges.range("fill of all there are", 1, 30, Edges::withAllStrikers, StrikeWheels::fill);
     }
 
     private static void rangesOfLength() {
-        Edges.sentence("if length is negative or greater than the number of bytes in the buffer (nothing changes)");
+        Edges.promise(3, "if length is negative or greater than the number of bytes in the buffer (nothing changes)");
         Edges.range("load", 0, 20, Edges::busyAndFed, StrikeWheels::load);
         Edges.range("load from an empty buffer", 0, 0, Edges::busy, StrikeWheels::load);
+        Edges.promise(55, "if length is negative or greater than the number of bytes in the buffer (nothing changes)");
         Edges.range("play", 0, 20, Edges::busyAndFed, StrikeWheels::play);
         Edges.range("play from an empty buffer", 0, 0, Edges::busy, StrikeWheels::play);
     }
@@ -748,7 +749,7 @@ public final class OperationsEdgeTest {
     }
 
     private static void playOrders() {
-        Edges.sentence("Returns the number of orders that were done");
+        Edges.sentence("Returns the number of orders that were done;");
         StrikeWheels x = new StrikeWheels();
         Check.same("20", Check.play(x, "wheel 1;".repeat(20)), 20);
         Check.same("19 of 20", Check.play(x, "wheel 1;".repeat(19) + "add 3;"), 19);

@@ -265,7 +265,7 @@ public final class TermsEdgeTest {
     }
 
     private static void missingUpToTheSquare() {
-        Edges.sentence("whose square is not above LAST");
+        Edges.sentence("and whose square is not above LAST");
         String[] smaller = {"", "striker 2;", "striker 2;striker 3;", "striker 2;striker 3;striker 5;striker 7;"};
         int[] numbers = {2, 3, 5, 11};
         for (int index = 0; index < numbers.length; index++) {
@@ -284,7 +284,7 @@ public final class TermsEdgeTest {
     }
 
     private static void missingHasAMark() {
-        Edges.sentence("a number that has a mark, is no striker and no wheel prime");
+        Edges.sentence("A striker is missing if it could be one: a number that has a mark, is no striker and no wheel prime");
         StrikeWheels x = Check.of("sieve 0;stretch 15;");
         Check.same("2, 3 and 4 (16 is LAST)", x.size(8), 3);
         x.trim(14);
@@ -318,7 +318,7 @@ public final class TermsEdgeTest {
     }
 
     private static void lastCallOfAll() {
-        Edges.sentence("An object is used for at most 512 calls after it has been made");
+        Edges.sentence("An object is used for at most 512 calls after it has been made; what later calls answer is free.");
         StrikeWheels x = new StrikeWheels();
         for (int call = 1; call <= 170; call++) {
             x.trim(29 - call % 28);

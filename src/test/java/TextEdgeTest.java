@@ -103,7 +103,7 @@ public final class TextEdgeTest {
 
     /** Of each keyword each letter counts. */
     private static void keywords() {
-        Edges.sentence("(quoted = literal");
+        Edges.sentence("Grammar (quoted = literal");
         everyLetter("", "sieve", " 1;", false);
         everyLetter("sieve 1;", "stretch", " 3;", false);
         everyLetter("sieve 1;", "striker", " 3;", false);
@@ -297,7 +297,7 @@ public final class TextEdgeTest {
     }
 
     private static void rangesOfScript() {
-        Edges.sentence("A number that is out of range.");
+        Edges.sentence("2 A number that is out of range.");
         rangeOfOrder("lay ", 1, 400);
         rangeOfOrder("add ", 2, 120);
         rangeOfOrder("lift ", 2, 120);
@@ -327,7 +327,7 @@ public final class TextEdgeTest {
     // ---- error codes
 
     private static void firstErrorAlongTheText() {
-        Edges.sentence("The first error along the text is reported");
+        Edges.sentence("Error codes. The first error along the text is reported");
         textError("sieve 9;stretch 0;oh", OUT_OF_RANGE, 6);
         textError("sieve 1;stretch 0;striker 3;striker 3;", OUT_OF_RANGE, 16);
         textError("sieve 1;striker 3;striker 3;striker 1;", TWICE, 26);
@@ -516,7 +516,7 @@ public final class TextEdgeTest {
     }
 
     private static void feedOrder() {
-        Edges.sentence("the four bytes of each parameter, the most significant byte first");
+        Edges.sentence("Appends 20 bytes to the buffer: the four bytes of each parameter, the most significant byte first.");
         StrikeWheels x = new StrikeWheels();
         x.feed(0x73696576, 0x6534_3b73, 0x74726574, 0x63683430, 0x303b2020);
         Check.same("sieve4;stretch400;", x.load(20), 401);
@@ -554,7 +554,7 @@ public final class TextEdgeTest {
     }
 
     private static void loadEmpties() {
-        Edges.sentence("The buffer is empty afterwards, also after an error.");
+        Edges.promise(3, "The buffer is empty afterwards, also after an error.");
         for (int length : new int[] {8, 7, 20, 0}) {
             StrikeWheels x = new StrikeWheels();
             Check.feed(x, "sieve 2;            ");
@@ -562,6 +562,7 @@ public final class TextEdgeTest {
             Check.illegalArgument("nothing is left of load of " + length, () -> x.load(1));
             Check.same("feed behind load of " + length, x.feed(0, 0, 0, 0, 0), 20);
         }
+        Edges.promise(55, "The buffer is empty afterwards, also after an error.");
         for (int length : new int[] {5, 4, 20, 0}) {
             StrikeWheels x = new StrikeWheels();
             Check.feed(x, "drop;               ");
@@ -579,6 +580,7 @@ public final class TextEdgeTest {
         textError("sieve 1;striker 5;striker 5;", 3, 26);
         textError("sieve 1;" + Edges.stretches(13, 400), 4, 152);
         textError("sieve 4;stretch 9;stretch 8;striker 5;striker 7;striker", 1, 55);
+        Edges.promise(55, "-10 minus the error code if the text has an error (then only the buffer and the error position change).");
         scriptError("lay 4;add 50;wheel 3;wheel 5;", 2, 27);
         scriptError("drop;lift 3;lay 4;first", 1, 23);
         scriptError("lay 400;".repeat(21), 4, 160);
@@ -596,18 +598,26 @@ public final class TextEdgeTest {
     }
 
     private static void loadThrows() {
-        Edges.sentence("if length is negative or greater than the number of bytes in the buffer (nothing changes)");
-        for (int length : new int[] {-1, 21, 600, 601, Edges.LEAST, Edges.MOST}) {
-            Edges.throwsAndKeeps("load(" + length + ")", Edges.ILLEGAL_ARGUMENT, Edges::busyAndFed, x -> x.load(length));
-            Edges.throwsAndKeeps("play(" + length + ")", Edges.ILLEGAL_ARGUMENT, Edges::busyAndFed, x -> x.play(length));
-        }
-        for (int length : new int[] {-1, 1, Edges.LEAST, Edges.MOST}) {
-            Edges.throwsAndKeeps("empty: load(" + length + ")", Edges.ILLEGAL_ARGUMENT, Edges::busy, x -> x.load(length));
-            Edges.throwsAndKeeps("empty: play(" + length + ")", Edges.ILLEGAL_ARGUMENT, Edges::busy, x -> x.play(length));
-        }
+        Edges.promise(3, "Throws `IllegalArgumentException` if length is negative or greater than the number of bytes in the"
+                + " buffer (nothing changes)");
+        lengthThrows("load", (x, length) -> x.load(length));
         Check.same("all there is", Edges.busyAndFed().load(20), 32);
         Check.same("nothing at all", Edges.busy().load(0), -11);
-        Check.same("nothing at all of a script", Edges.busy().play(0), 0);
+        Edges.promise(55, "Throws `IllegalArgumentException` if length is negative or greater than the number of bytes in the"
+                + " buffer (nothing changes)");
+        lengthThrows("play", (x, length) -> x.play(length));
+        Check.same("all there is", Edges.busyAndFed().play(20), -11);
+        Check.same("nothing at all", Edges.busy().play(0), 0);
+    }
+
+    private static void lengthThrows(String call, Edges.UseOfNumber reading) {
+        for (int length : new int[] {-1, 21, 600, 601, Edges.LEAST, Edges.MOST}) {
+            Edges.throwsAndKeeps(call + "(" + length + ")", Edges.ILLEGAL_ARGUMENT, Edges::busyAndFed, x -> reading.of(x, length));
+        }
+        for (int length : new int[] {-1, 1, Edges.LEAST, Edges.MOST}) {
+            Edges.throwsAndKeeps("empty: " + call + "(" + length + ")", Edges.ILLEGAL_ARGUMENT, Edges::busy,
+                    x -> reading.of(x, length));
+        }
     }
 
     private static void errorPositionOf() {

@@ -1,7 +1,5 @@
 /** The boundary cases of promise 1 and of "what there is", promises 5 to 16, and of format, 56 and 57. */
 public final class ThingsEdgeTest {
-    private static final String NO_SUCH_LAID = "Throws `NoSuchElementException` if it is not laid";
-
     private ThingsEdgeTest() {
     }
 
@@ -61,7 +59,7 @@ public final class ThingsEdgeTest {
     // ---- size, account
 
     private static void sizeOutOfRange() {
-        Edges.sentence("`int size(int what) throws IllegalArgumentException`");
+        Edges.promise(5, "Throws `IllegalArgumentException` if what is out of range");
         Edges.range("size", 0, 9, Edges::busyAndFed, StrikeWheels::size);
         Edges.range("size without any", 0, 9, Edges::withoutAny, StrikeWheels::size);
     }
@@ -125,7 +123,7 @@ public final class ThingsEdgeTest {
     }
 
     private static void accountOutOfRange() {
-        Edges.sentence("`what`: 0 to 4");
+        Edges.promise(6, "`what`: 0 to 4", "Returns an account.", "Throws `IllegalArgumentException` if what is out of range");
         Edges.range("account", 0, 4, Edges::busyAndFed, StrikeWheels::account);
         StrikeWheels x = Edges.busy();
         Edges.answers("account", x, StrikeWheels::account, 0, 3, 1, 1, 2, 1, 3, 1, 4, 1);
@@ -134,7 +132,7 @@ public final class ThingsEdgeTest {
     // ---- stretch
 
     private static void noSuchStretch() {
-        Edges.sentence("Throws `NoSuchElementException` if there is no such stretch (checked first)");
+        Edges.promise(7, "Throws `NoSuchElementException` if there is no such stretch (checked first)");
         Edges.numbered("stretch(.., 0)", 3, Edges::busyAndFed, (x, number) -> x.stretch(number, 0));
         Edges.numbered("none: stretch(.., 5)", 0, Edges::withoutAny, (x, number) -> x.stretch(number, 5));
         Edges.numbered("12: stretch(.., 1)", 12, Edges::withAllStretches, (x, number) -> x.stretch(number, 1));
@@ -147,8 +145,9 @@ public final class ThingsEdgeTest {
     }
 
     private static void stretchWhat() {
-        Edges.sentence("Returns a number of a stretch: what 0 its first number, 1 its last one, 2 its marks,"
-                + " 3 its numbers on spokes, 4 its first mark, 5 its last mark");
+        Edges.promise(7, "Returns a number of a stretch: what 0 its first number, 1 its last one, 2 its marks,"
+                + " 3 its numbers on spokes, 4 its first mark, 5 its last mark",
+                "Throws `IllegalArgumentException` if what is out of range");
         Edges.range("stretch(0, ..)", 0, 5, Edges::busyAndFed, (x, what) -> x.stretch(0, what));
         Edges.range("stretch(2, ..)", 0, 5, Edges::busyAndFed, (x, what) -> x.stretch(2, what));
         StrikeWheels x = Check.of("sieve 1;stretch 5;stretch 3;stretch 4;striker 3;");
@@ -183,7 +182,7 @@ public final class ThingsEdgeTest {
     // ---- striker, find
 
     private static void noSuchStriker() {
-        Edges.sentence("Throws `NoSuchElementException` if there is no such striker (checked first)");
+        Edges.promise(8, "Throws `NoSuchElementException` if there is no such striker (checked first)");
         Edges.numbered("striker(.., 0)", 4, Edges::busyAndFed, (x, number) -> x.striker(number, 0));
         Edges.numbered("none: striker(.., 5)", 0, Edges::withoutAny, (x, number) -> x.striker(number, 5));
         Edges.numbered("30: striker(.., 3)", 30, Edges::withAllStrikers, (x, number) -> x.striker(number, 3));
@@ -196,8 +195,8 @@ public final class ThingsEdgeTest {
     }
 
     private static void strikerWhat() {
-        Edges.sentence("Returns a number of a striker: what 0 D, 1 the laid numbers that it strikes,"
-                + " 2 those of them that it owns");
+        Edges.promise(8, "Returns a number of a striker: what 0 D, 1 the laid numbers that it strikes,"
+                + " 2 those of them that it owns", "Throws `IllegalArgumentException` if what is out of range");
         Edges.range("striker(0, ..)", 0, 5, Edges::busyAndFed, (x, what) -> x.striker(0, what));
         Edges.range("striker(3, ..)", 0, 5, Edges::busyAndFed, (x, what) -> x.striker(3, what));
         StrikeWheels x = Check.of("sieve 0;stretch 34;striker 3;striker 2;striker 6;");
@@ -293,7 +292,7 @@ public final class ThingsEdgeTest {
     // ---- at, cause, struck
 
     private static void notLaidAheadOfAll() {
-        Edges.sentence("3 not laid (ahead of all others)");
+        Edges.sentence("Returns what a number is: 0 marked, 1 on no spoke, 2 struck, 3 not laid (ahead of all others).");
         StrikeWheels x = Check.of("sieve 1;stretch 7;striker 3;");
         Edges.answers("LAST 8: at", x, StrikeWheels::at, 8, 1, 9, 3, 10, 3, 11, 3, 1, 3, 0, 3, -1, 3, -2, 3, -9, 3,
                 Edges.LEAST, 3, Edges.LEAST + 1, 3, Edges.MOST, 3, Edges.MOST - 1, 3);
@@ -304,7 +303,8 @@ public final class ThingsEdgeTest {
     }
 
     private static void causeOfEach() {
-        Edges.sentence("with 1 the smallest wheel prime that divides the number, with 2 D of its owner, with 3 LAST; 0 with 0");
+        Edges.sentence("Returns what causes the answer of at: with 1 the smallest wheel prime that divides the number, with 2 D of"
+                + " its owner, with 3 LAST; 0 with 0.");
         StrikeWheels x = Check.of("sieve 4;stretch 210;striker 13;striker 11;");
         Edges.answers("cause", x, StrikeWheels::cause, 4, 2, 210, 2, 9, 3, 105, 3, 25, 5, 35, 5, 49, 7, 77, 7, 121, 11, 143, 11,
                 169, 13, 2, 0, 7, 0, 11, 0, 211, 0, 212, 211, 1, 211, 0, 211, -1, 211, Edges.LEAST, 211, Edges.MOST, 211);
@@ -317,7 +317,7 @@ public final class ThingsEdgeTest {
     }
 
     private static void struckNotLaid() {
-        Edges.sentence(NO_SUCH_LAID);
+        Edges.promise(12, "Returns how many strikers strike a laid number.", "Throws `NoSuchElementException` if it is not laid");
         StrikeWheels x = Check.of("sieve 0;stretch 35;striker 2;striker 3;striker 6;striker 4;");
         Edges.answers("struck", x, StrikeWheels::struck, 2, 0, 36, 4, 4, 1, 35, 0, 30, 2, 16, 2, 12, 2);
         for (int number : new int[] {1, 37, 0, -1, -2, -36, Edges.LEAST, Edges.MOST}) {
@@ -353,7 +353,8 @@ public final class ThingsEdgeTest {
     }
 
     private static void spokeOfProduct() {
-        Edges.sentence("(the product itself in place of 0)");
+        Edges.sentence("Returns the place (see spokeAt) of the number that is left if a number is divided by the product of the"
+                + " wheel primes (the product itself in place of 0)");
         StrikeWheels x = new StrikeWheels();
         x.wheel(0);
         Edges.answers("wheel 0: spokeOf", x, StrikeWheels::spokeOf, 1, 0, 2, 0, 3, 0, Edges.MOST, 0, Edges.MOST - 1, 0);
@@ -413,11 +414,11 @@ public final class ThingsEdgeTest {
     }
 
     private static void noSuchPair() {
-        Edges.sentence("`int both(int striker, int other) throws NoSuchElementException`");
+        Edges.promise(15, "Throws `NoSuchElementException` if there is no such striker");
         Edges.numbered("both(.., 0)", 4, Edges::busyAndFed, (x, number) -> x.both(number, 0));
         Edges.numbered("both(3, ..)", 4, Edges::busyAndFed, (x, number) -> x.both(3, number));
         Edges.numbered("none: both(.., ..)", 0, Edges::withoutAny, (x, number) -> x.both(number, number));
-        Edges.sentence("`int meet(int striker, int other) throws NoSuchElementException`");
+        Edges.promise(16, "Throws `NoSuchElementException` if there is no such striker");
         Edges.numbered("meet(.., 0)", 4, Edges::busyAndFed, (x, number) -> x.meet(number, 0));
         Edges.numbered("meet(3, ..)", 4, Edges::busyAndFed, (x, number) -> x.meet(3, number));
         Edges.numbered("none: meet(.., ..)", 0, Edges::withoutAny, (x, number) -> x.meet(number, number));
@@ -433,7 +434,9 @@ public final class ThingsEdgeTest {
     }
 
     private static void formatRuns() {
-        Edges.sentence("its marks with '.' between two; with ' ' between two runs; a struck number on a spoke ends a run");
+        Edges.promise(56, "Formats a stretch as text: for each run of marks (of numbers on spokes that follow one another in it)"
+                + " that is not empty, its marks with '.' between two; with ' ' between two runs; a struck number on a spoke ends a"
+                + " run.", "Returns the number of bytes of the text.");
         format(Check.of("sieve 1;stretch 1;"), 0, "2");
         format(Check.of("sieve 1;stretch 2;stretch 1;"), 1, "");
         format(Check.of("sieve 0;stretch 2;stretch 1;striker 2;"), 1, "");
@@ -453,7 +456,7 @@ public final class ThingsEdgeTest {
     }
 
     private static void formatNoSuchStretch() {
-        Edges.sentence("`int format(int stretch) throws NoSuchElementException`");
+        Edges.promise(56, "Throws `NoSuchElementException` if there is no such stretch");
         Edges.numbered("format", 3, Edges::busyAndFed, StrikeWheels::format);
         Edges.numbered("none: format", 0, Edges::withoutAny, StrikeWheels::format);
         Edges.numbered("12: format", 12, Edges::withAllStretches, StrikeWheels::format);
@@ -504,7 +507,7 @@ public final class ThingsEdgeTest {
     }
 
     private static void tellingChangesNothing() {
-        Edges.sentence("---- what there is");
+        Edges.sentence("says: ---- what there is.");
         Edges.tellsAndKeeps("size", Edges::busyAndFed, x -> x.size(4) + x.size(8) + x.size(9));
         Edges.tellsAndKeeps("account", Edges::busyAndFed, x -> x.account(0));
         Edges.tellsAndKeeps("stretch", Edges::busyAndFed, x -> x.stretch(1, 4));
